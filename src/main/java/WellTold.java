@@ -270,11 +270,8 @@ public final class WellTold {
         if (!within(n, 0, FURTHEST_THOUGHT) || !now.folk.has(one)) {
             return error(BEYOND);
         }
-        int set = 0;
-        for (int i = 0; i < now.sayings.size(); i++) {
-            set = withMember(set, i, inSet(now.behind(i, n).knowers, one) == 1);
-        }
-        return set;
+        now.thinkAll(n);
+        return now.sayings.knownBy(one, now.thoughts);
     }
 
     public int learns(int one, int saying) {
@@ -332,9 +329,10 @@ public final class WellTold {
         if (!told.tellsOf(now.folk.size())) {
             return error(NONE);
         }
+        now.thinkAll(n);
         int set = 0;
-        for (int i = 0; i < now.sayings.size(); i++) {
-            set = withMember(set, i, told.fits(now.behind(i, n).knowers));
+        for (int i = 0; i < now.thoughts.size(); i++) {
+            set = withMember(set, i, told.fits(now.thoughts.get(i)));
         }
         return set;
     }
@@ -372,7 +370,7 @@ public final class WellTold {
         int pairs = 0;
         for (int one = 0; one < now.folk.size(); one++) {
             for (int other = one + 1; other < now.folk.size(); other++) {
-                if (now.thoughtOf(one) == now.thoughtOf(other)) {
+                if (now.sayings.knownBy(one, now.thoughts) == now.sayings.knownBy(other, now.thoughts)) {
                     pairs++;
                 }
             }
@@ -387,10 +385,11 @@ public final class WellTold {
         if (now.sayings.size() == 0) {
             return error(NONE);
         }
+        now.thinkAll(n);
         int best = 0;
         int most = -1;
-        for (int i = 0; i < now.sayings.size(); i++) {
-            int many = Integer.bitCount(now.behind(i, n).knowers);
+        for (int i = 0; i < now.thoughts.size(); i++) {
+            int many = Integer.bitCount(now.thoughts.get(i));
             if (many > most) {
                 best = i;
                 most = many;
@@ -556,7 +555,8 @@ public final class WellTold {
     public int check() {
         int wrong = 0;
         for (int i = 0; i < now.waiting.size() && wrong == 0; i++) {
-            if (now.waiting.get(i) != now.strengthBehind(i + 1)) {
+            now.thinkAll(i + 1);
+            if (now.waiting.get(i) != now.strengthThen) {
                 wrong = 1 + i;
             }
         }
@@ -573,7 +573,7 @@ public final class WellTold {
             case 4: return now.hour;
             case 5: return now.rain;
             case 6: return now.ways.stopped;
-            case 7: return now.strengthBehind(0);
+            case 7: return now.sayings.allStrength();
             case 8: return Integer.bitCount(now.sayings.allKnowers());
             case 9: return now.tape.size();
             case 10: return now.waiting.size();
@@ -699,7 +699,7 @@ public final class WellTold {
 
         void zeros(int n) {
             clear();
-            for (int i = 0; i < n; i++) {
+            for (int i = 0; i < n && i < cells.length; i++) {
                 add(0);
             }
         }
@@ -764,10 +764,7 @@ public final class WellTold {
             knowers.set(i, s.knowers);
         }
 
-        int knownBy(int one) {
-            return knownBy(one, knowers);
-        }
-
+        /** What one KNOWS, by who knows each SAYING. */
         int knownBy(int one, Row known) {
             int set = 0;
             for (int i = 0; i < size(); i++) {
@@ -780,6 +777,14 @@ public final class WellTold {
             for (int i = 0; i < size(); i++) {
                 knowers.set(i, withMember(knowers.get(i), one, inSet(set, i) == 1));
             }
+        }
+
+        int allStrength() {
+            int sum = 0;
+            for (int i = 0; i < size(); i++) {
+                sum += strengths.get(i);
+            }
+            return sum;
         }
 
         int allKnowers() {
@@ -821,7 +826,7 @@ public final class WellTold {
         }
 
         int firstFrom(int well, int without) {
-            for (int i = 0; i < size(); i++) {
+            for (int i = 0; i < starts.size(); i++) {
                 if (starts.get(i) == well && inSet(without, i) == 0) {
                     return i;
                 }
@@ -830,7 +835,7 @@ public final class WellTold {
         }
 
         int lastFrom(int well, int without) {
-            for (int i = size() - 1; i >= 0; i--) {
+            for (int i = starts.size() - 1; i >= 0; i--) {
                 if (starts.get(i) == well && inSet(without, i) == 0) {
                     return i;
                 }
@@ -865,7 +870,7 @@ public final class WellTold {
 
         int drinkersAt(int well) {
             int set = 0;
-            for (int i = 0; i < size(); i++) {
+            for (int i = 0; i < wells.size(); i++) {
                 set = withMember(set, i, wells.get(i) == well);
             }
             return set;
@@ -891,7 +896,9 @@ public final class WellTold {
         final Text weakens = new Text(0);
         final Text tastes = new Text(1);
         private final Saying mind = new Saying();
-        private final Row thoughts = new Row(MOST_SAYINGS);
+        /** Behind the HOURS of the latest thinkAll(): who KNOWS each SAYING, and all STRENGTHS together. */
+        final Row thoughts = new Row(MOST_SAYINGS);
+        int strengthThen = 0;
 
         void copyFrom(Village other) {
             wellCount = other.wellCount;
@@ -919,7 +926,7 @@ public final class WellTold {
             if (what == 0) {
                 return folk.wells.get(one);
             }
-            return what == 1 ? folk.palates.get(one) : sayings.knownBy(one);
+            return what == 1 ? folk.palates.get(one) : sayings.knownBy(one, sayings.knowers);
         }
 
         int draw() {
@@ -1005,29 +1012,16 @@ public final class WellTold {
             return mind;
         }
 
-        Saying behind(int saying, int n) {
-            Saying s = thought(saying);
-            passAll(s, rain, ways.stopped, n);
-            return s;
-        }
-
+        /** Fills what is thought of all SAYINGS behind n HOURS. */
         void thinkAll(int n) {
             thoughts.clear();
+            strengthThen = 0;
             for (int i = 0; i < sayings.size(); i++) {
-                thoughts.add(behind(i, n).knowers);
+                Saying s = thought(i);
+                passAll(s, rain, ways.stopped, n);
+                thoughts.add(s.knowers);
+                strengthThen += s.strength;
             }
-        }
-
-        int thoughtOf(int one) {
-            return sayings.knownBy(one, thoughts);
-        }
-
-        int strengthBehind(int n) {
-            int sum = 0;
-            for (int i = 0; i < sayings.size(); i++) {
-                sum += behind(i, n).strength;
-            }
-            return sum;
         }
     }
 
