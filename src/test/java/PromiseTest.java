@@ -30,6 +30,7 @@ public final class PromiseTest {
         p7Call();
         p8OfSayingWeakens();
         p8OfSayingGoesOn();
+        p8OfSayingByWayNothing();
         p8OfSayingOthers();
         p9Change();
         p10Become();
@@ -80,6 +81,7 @@ public final class PromiseTest {
         p36Judge();
         p37Image();
         p38Restore();
+        p38RestoreOfLess();
         p39Tell();
         p40Check();
         p41Count();
@@ -238,6 +240,13 @@ public final class PromiseTest {
         weakens("8: 0", x, 0, 0, 0, 0, 0, 1, 0);
         Checks.text(x, 0, "999");
         weakens("8: 999", x, 99, 98, 198, 0, 96, 199, 49);
+        // m is 6, its rest by 3 is 0: LOVE as SECRET.
+        WellTold y = sevenKinds(6);
+        weakens("8: m 6, rain 0", y, 1, 0, 2, 0, 0, 3, 0);
+        Checks.text(y, 0, "0");
+        weakens("8: m 6, 0", y, 0, 0, 0, 0, 0, 1, 0);
+        Checks.text(y, 0, "3");
+        weakens("8: m 6, 3", y, 3, 2, 6, 0, 2, 7, 1);
     }
 
     private static void p8OfSayingGoesOn() {
@@ -253,7 +262,10 @@ public final class PromiseTest {
         goesOn("8: three ways", x, 1, 1, 4, -1, 1, 4, 1);
         x.stop(1, 1);
         goesOn("8: the first is stopped", x, 2, 2, 4, -1, 2, 4, 2);
+        x.stop(2, 1);
         x.stop(4, 1);
+        goesOn("8: all are stopped", x, none);
+        x.stop(2, 0);
         goesOn("8: one is left", x, 2, 2, 2, -1, 2, 2, 2);
         x.folk(1, 0);
         goesOn("8: one drinks elsewhere", x, 2, 2, 2, -1, 2, 2, 2);
@@ -263,6 +275,12 @@ public final class PromiseTest {
         goesOn("8: who knows it", x, 2, 2, 2, -1, 2, 2, 2);
         x.folk(0, 0);
         goesOn("8: and another", x, 2, 2, 2, -1, -1, 2, 2);
+    }
+
+    private static void p8OfSayingByWayNothing() {
+        WellTold x = sevenKinds(0);
+        x.way(0, 1, 1);
+        goesOn("8: way 0 alone", x, 0, 0, 0, -1, 0, 0, 0);
     }
 
     private static void goesOn(String what, WellTold x, int... due) {
@@ -408,6 +426,8 @@ public final class PromiseTest {
         due("14: palate is 99", x.ofFolk(1, 1), 99);
         due("14: well 4", x.drink(1, 0, 4), BEYOND);
         due("14: well -1", x.drink(1, 0, -1), BEYOND);
+        due("14: palate 0", x.drink(1, 1, 0), 99);
+        due("14: palate 99", x.drink(1, 1, 99), 0);
         due("14: palate 100", x.drink(1, 1, 100), BEYOND);
         due("14: palate -1", x.drink(1, 1, -1), BEYOND);
         due("14: what 3", x.drink(1, 3, 0), BEYOND);
@@ -540,6 +560,13 @@ public final class PromiseTest {
         law("s|m", 0, 0, 0, 0);
         law("s|m", 0, 5, 0, 1);
         law("s|m", -2, 0, 0, 1);
+        law("5+(s|m)", 0, 0, 0, 5);
+        law("5+(s&m)", 0, 1, 0, 5);
+        law("5+(s<m)", 2, 2, 0, 5);
+        law("5+(s=m)", 2, 3, 0, 5);
+        law("5+(s>m)", 2, 2, 0, 5);
+        law("5+!s", 2, 2, 0, 5);
+        law("5+s/m", 2, 0, 0, 5);
         law("s&m", 4, 2, 0, 1);
         law("s&m", 4, 0, 0, 0);
         law("1|0&0", 0, 0, 0, 1);
@@ -687,6 +714,13 @@ public final class PromiseTest {
         y.hours(98);
         due("18: two more", y.hours(2), STATE);
         due("18: one more", y.hours(1), 0);
+        WellTold z = new WellTold();
+        for (int i = 0; i < 100; i++) {
+            z.hours(99);
+        }
+        z.hours(59);
+        due("19: just to the last", z.loose(40), 0);
+        due("19: count(4)", z.count(4), 9999);
     }
 
     private static void p19Loose() {
@@ -818,6 +852,7 @@ public final class PromiseTest {
         due("23: one way does", x.stops(3, 0, 10), 1);
         due("23: none is wanted", x.stops(3, 0, 5), 0);
         due("23: nor here", x.stops(0, 0, 10), 0);
+        due("23: nor behind 0", x.stops(3, 0, 0), 0);
         x.drink(3, 2, 1);
         due("23: who knows it", x.stops(3, 0, 10), NONE);
         due("23: n 11", x.stops(0, 0, 11), BEYOND);
@@ -841,6 +876,13 @@ public final class PromiseTest {
         due("23: one more", y.stops(0, 0, 3), 4);
         y.stop(2, 1);
         due("23: none more", y.stops(0, 0, 3), 0);
+        // All that there are.
+        WellTold w = new WellTold();
+        w.way(0, 1, 1);
+        w.way(0, 1, 2);
+        w.folk(1, 1);
+        w.call(20, 0, 50);
+        due("23: both ways", w.stops(0, 0, 10), 3);
         // To stop one may send it by another: the fewest, then the least.
         WellTold z = new WellTold();
         z.way(0, 2, 1);
@@ -1360,6 +1402,7 @@ public final class PromiseTest {
             s[n++] = x.ofFolk(0, what);
         }
         s[n++] = x.law(0, 5, 5, 5);
+        s[n++] = x.law(1, 5, 5, 98);
         s[n++] = x.law(1, 5, 5, 99);
         return s;
     }
@@ -1401,6 +1444,41 @@ public final class PromiseTest {
         due("38: the tape", x.feed('m', 1), 3);
         due("38: is s+m", x.text(0), 1);
         due("38: gives s+m", x.law(0, 3, 4, 9), 7);
+    }
+
+    private static void p38RestoreOfLess() {
+        WellTold x = new WellTold();
+        x.image();
+        x.wells(6);
+        x.way(5, 4, 3);
+        x.way(4, 5, 2);
+        x.stop(0, 1);
+        x.call(25, 5, 9);
+        x.folk(5, 9);
+        x.tell(1);
+        Checks.text(x, 0, "7");
+        Checks.text(x, 1, "0");
+        Checks.feed(x, "12");
+        due("38: HOUR 0", x.restore(), 0);
+        int[] first = {4, 0, 0, 0, 0, 0, 0, 0, 0, 0, 0, 0, 1};
+        for (int i = 0; i < first.length; i++) {
+            due("38: as at first, count(" + i + ")", x.count(i), first[i]);
+        }
+        due("38: no text of WEAKENS", x.law(0, 0, 0, 0), 1);
+        due("38: no text of TASTES", x.law(1, 0, 0, 0), 1);
+        due("38: a way anew", x.way(1, 2, 8), 0);
+        int[] way = {1, 2, 8, 0};
+        for (int what = 0; what < way.length; what++) {
+            due("38: ofWay(0, " + what + ")", x.ofWay(0, what), way[what]);
+        }
+        due("38: a saying anew", x.call(34, 3, 33), 0);
+        int[] saying = {3, 4, 3, 33, 0, 0, -1, 0};
+        for (int what = 0; what < saying.length; what++) {
+            due("38: ofSaying(0, " + what + ")", x.ofSaying(0, what), saying[what]);
+        }
+        due("38: one anew", x.folk(2, 1), 0);
+        due("38: one's well", x.ofFolk(0, 0), 2);
+        due("38: one's palate", x.ofFolk(0, 1), 1);
     }
 
     private static void mixUp(WellTold x) {
