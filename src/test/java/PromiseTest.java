@@ -931,6 +931,9 @@ public final class PromiseTest {
         due("24: none is told", x.who(0, 1), 7);
         x.put(0, 0, 2);
         due("24: 2 fits none", x.who(0, 1), 0);
+        numbers(x, 0, 16, 1, -1, 2);
+        numbers(x, 0, 16, 1, -1);
+        due("24: the third is gone", x.who(0, 1), 1);
         due("24: sheet 4", x.who(4, 0), BEYOND);
         due("24: sheet -1", x.who(-1, 0), BEYOND);
         due("24: n 100", x.who(0, 100), BEYOND);
@@ -1338,8 +1341,12 @@ public final class PromiseTest {
         numbers(x, 1, 8, 1, -1);
         due("35: up to -1", x.palates(1), 1);
         due("35: one 1 stays", x.ofFolk(1, 1), 99);
+        numbers(x, 1, 8, 7);
+        due("35: fewer numbers than folk", x.palates(1), 1);
+        due("35: one 1 stays again", x.ofFolk(1, 1), 99);
         numbers(x, 1, 8);
         due("35: no numbers", x.palates(1), 0);
+        due("35: one 0 stays", x.ofFolk(0, 1), 7);
         due("35: no ERROR", x.told(1), 2);
     }
 
@@ -1354,6 +1361,9 @@ public final class PromiseTest {
         due("36: one lacks", x.judge(0), 1);
         numbers(x, 0, 8, 7, 8, 0);
         due("36: one is too many", x.judge(0), 2);
+        numbers(x, 0, 8, 7, 8, 9);
+        numbers(x, 0, 8, 7, 8);
+        due("36: the third is gone", x.judge(0), -1);
         numbers(x, 0, 8, 7, 9, 0);
         due("36: 9 isn't so", x.judge(0), 1);
         numbers(x, 0, 8, 6, 9);
