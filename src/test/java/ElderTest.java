@@ -2,8 +2,10 @@ import java.util.Random;
 
 /** Long runs by fixed seeds: each answer is compared with the one of Elder. */
 public final class ElderTest {
-    private static final int RUNS = 240;
+    private static final int RUNS = 440;
     private static final int CALLS = 512;
+    /** A TEXT of 50 bytes, fed one by one, read and asked three times. */
+    private static final int MOST_AT_ONCE = 54;
 
     private final Random random;
     private final WellTold x = new WellTold();
@@ -11,6 +13,8 @@ public final class ElderTest {
     private final boolean wild;
     private long got;
     private long want;
+    /** Calls made on x: what it answers behind its 512th is free. */
+    private int calls = 0;
 
     private ElderTest(long seed) {
         random = new Random(seed);
@@ -27,7 +31,7 @@ public final class ElderTest {
 
     private void run(int run) {
         setUp(run);
-        for (int i = 0; i < CALLS - 120; i++) {
+        for (int i = 0; calls <= CALLS - MOST_AT_ONCE; i++) {
             String call = random.nextInt(25) == 0 ? newText() : someCall(random.nextInt(42));
             Checks.due("run " + run + ", call " + i + ": " + call, got, want);
         }
@@ -80,6 +84,7 @@ public final class ElderTest {
     }
 
     private String someCall(int act) {
+        calls++;
         switch (act) {
             case 0: { int n = some(2, 8); got = x.wells(n); want = y.wells(n); return say("wells", n); }
             case 1: { int a = well(), b = well(), h = some(1, random.nextInt(3) == 0 ? 9 : 2);
@@ -173,6 +178,7 @@ public final class ElderTest {
             int strength = y.ofSaying(i, 3);
             x.put(h, i, strength);
             y.put(h, i, strength);
+            calls++;
         }
         // The ERRORS of put() are told by both alike.
         got = x.judge(h);
@@ -201,6 +207,7 @@ public final class ElderTest {
                 + text.substring(Math.min(text.length(), at + random.nextInt(2)));
         }
         text = text.substring(0, Math.min(50, text.length()));
+        calls += text.length() + 4;
         for (int i = 0; i < text.length(); i++) {
             Checks.due("feed of " + text, x.feed(text.charAt(i), 1), y.feed(text.charAt(i), 1));
         }

@@ -2,7 +2,8 @@ import java.lang.management.ManagementFactory;
 
 /** The dearest calls make nothing, and an object holds little: all calls of one run live in one room. */
 public final class RoomTest {
-    private static final int CALLS = 512;
+    /** So many that with those that make the object ready they are no more than 512. */
+    private static final int CALLS = 380;
     private static final int ACTS = 18;
     private static final long BYTES_OF_AN_OBJECT = 16 * 1024;
 

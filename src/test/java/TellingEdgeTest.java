@@ -31,6 +31,8 @@ public final class TellingEdgeTest {
         p36Judge();
         p37Image();
         p38Restore();
+        p38RestoreAll();
+        p38RestoreOfFewer();
         p38RestoreWhatStays();
         p39Tell();
         p40Check();
@@ -53,18 +55,19 @@ public final class TellingEdgeTest {
     }
 
     private static void draws() {
-        Edges.answers("3: z is 1 at first", Edges::fresh, x -> x.count(12), 1);
-        Edges.answers("3: z 0: RAIN", () -> drawing(0), x -> x.loose(1), 0, x -> x.count(5), 48 % 10);
-        Edges.answers("3: z 0: z", () -> drawing(0), x -> x.loose(1), 0, x -> x.count(12), 12345);
+        Edges.answers("Terms 3: z is 1 at first", Edges::fresh, x -> x.count(12), 1);
+        Edges.answers("Terms 3: z 0: RAIN", () -> drawing(0), x -> x.loose(1), 0, x -> x.count(5), 48 % 10);
+        Edges.answers("Terms 3: z 0: z", () -> drawing(0), x -> x.loose(1), 0, x -> x.count(12), 12345);
         // -1 makes -1103502900; >>> 8 of it is above 0: (4294967296 - 1103502900) / 256 = 12466657.
-        Edges.answers("3: z below 0: RAIN isn't", () -> drawing(-1), x -> x.loose(1), 0, x -> x.count(5), 7);
-        Edges.answers("3: z below 0: z", () -> drawing(-1), x -> x.loose(1), 0, x -> x.count(12), -1103502900);
+        Edges.answers("Terms 3: z below 0: RAIN isn't", () -> drawing(-1), x -> x.loose(1), 0, x -> x.count(5), 7);
+        Edges.answers("Terms 3: z below 0: z", () -> drawing(-1), x -> x.loose(1), 0, x -> x.count(12), -1103502900);
         // The most by 1103515245 is (an int) the least less 1103515245, as it is odd.
-        Edges.answers("3: z is an int, from the most", () -> drawing(MOST), x -> x.loose(1), 0,
+        Edges.answers("Terms 3: z is an int, from the most", () -> drawing(MOST), x -> x.loose(1), 0,
             x -> x.count(12), LEAST - 1103515245 + 12345);
-        Edges.answers("3: z is an int, from the least", () -> drawing(LEAST), x -> x.loose(1), 0,
+        Edges.answers("Terms 3: z is an int, from the least", () -> drawing(LEAST), x -> x.loose(1), 0,
             x -> x.count(12), LEAST + 12345);
-        Edges.answers("3: HOURS that are not by draws draw none", () -> drawing(9), x -> x.hours(9), 0, x -> x.count(12), 9);
+        Edges.answers("Terms 3: HOURS that are not by draws draw none", () -> drawing(9),
+            x -> x.hours(9), 0, x -> x.count(12), 9);
     }
 
     private static void p29Seed() {
@@ -86,22 +89,23 @@ public final class TellingEdgeTest {
     }
 
     private static void voicesGoRound() {
-        Edges.answers("3: x + n goes round", () -> saying(0), x -> x.voice(1, 0, MOST), LEAST);
-        Edges.answers("3: x - m goes round", () -> saying(9), x -> x.voice(1, 2, LEAST), MOST - 8);
-        Edges.answers("3: * 2 goes round", () -> saying(0), x -> x.voice(1, 1, MOST - 1), -2);
-        Edges.answers("3: * 3 goes round", () -> saying(10), x -> x.voice(1, 0, MOST - 1), MOST - 2);
-        Edges.answers("3: x + 1 goes round", () -> saying(50), x -> x.voice(1, 1, MOST), 2 * (LEAST + 1) - 1);
-        Edges.answers("3: the least has no other sign", () -> saying(30), x -> x.voice(1, 2, LEAST), LEAST);
-        Edges.answers("3: n is the number, 0", () -> saying(0), x -> x.voice(0, 0, 5), 5);
-        Edges.answers("3: n is the number, 7", Edges::full, x -> x.voice(7, 0, 5), 12);
-        Edges.answers("3: m is as told, 0", () -> saying(0), x -> x.voice(1, 2, 5), 5);
-        Edges.answers("3: m is as told, 9", () -> saying(9), x -> x.voice(1, 2, 5), -4);
-        Edges.answers("3: m is as told by become()", () -> saying(9), x -> x.become(1, 3), 0, x -> x.voice(1, 2, 5), 2);
+        Edges.answers("Terms 3: x + n goes round", () -> saying(0), x -> x.voice(1, 0, MOST), LEAST);
+        Edges.answers("Terms 3: x - m goes round", () -> saying(9), x -> x.voice(1, 2, LEAST), MOST - 8);
+        Edges.answers("Terms 3: * 2 goes round", () -> saying(0), x -> x.voice(1, 1, MOST - 1), -2);
+        Edges.answers("Terms 3: * 3 goes round", () -> saying(10), x -> x.voice(1, 0, MOST - 1), MOST - 2);
+        Edges.answers("Terms 3: x + 1 goes round", () -> saying(50), x -> x.voice(1, 1, MOST), 2 * (LEAST + 1) - 1);
+        Edges.answers("Terms 3: the least has no other sign", () -> saying(30), x -> x.voice(1, 2, LEAST), LEAST);
+        Edges.answers("Terms 3: n is the number, 0", () -> saying(0), x -> x.voice(0, 0, 5), 5);
+        Edges.answers("Terms 3: n is the number, 7", Edges::full, x -> x.voice(7, 0, 5), 12);
+        Edges.answers("Terms 3: m is as told, 0", () -> saying(0), x -> x.voice(1, 2, 5), 5);
+        Edges.answers("Terms 3: m is as told, 9", () -> saying(9), x -> x.voice(1, 2, 5), -4);
+        Edges.answers("Terms 3: m is as told by become()", () -> saying(9),
+            x -> x.become(1, 3), 0, x -> x.voice(1, 2, 5), 2);
     }
 
     /** Of a KIND with m 3, SAYING 1: what an act answers to 5, and THE TRACE just as long as that. */
     private static void bodies(int kind, int act, int due, int... trace) {
-        String what = "3: KIND " + kind + ", act " + act;
+        String what = "Terms 3: KIND " + kind + ", act " + act;
         WellTold x = saying(10 * kind + 3);
         due(what, x.voice(1, act, 5), due);
         due(what + ": BODIES", x.count(11), trace.length);
@@ -175,7 +179,8 @@ public final class TellingEdgeTest {
     private static void p32Sheet() {
         Edges.answers("32: SHEET 3", Edges::some, x -> x.sheet(3, 8, 1), 1, x -> x.put(3, 0, 1), 1);
         Edges.answers("32: 40 numbers: the last", Edges::fresh, x -> x.sheet(0, 32, 40), 1, x -> x.put(0, 39, 1), 1);
-        Edges.answers("32: 40 numbers: none more", Edges::fresh, x -> x.sheet(0, 32, 40), 1, x -> x.put(0, 40, 1), BEYOND);
+        Edges.answers("32: 40 numbers: none more", Edges::fresh,
+            x -> x.sheet(0, 32, 40), 1, x -> x.put(0, 40, 1), BEYOND);
         Edges.answers("32: 0 numbers: not missing", Edges::fresh, x -> x.sheet(0, 8, 0), 1, x -> x.judge(0), -1);
         Edges.answers("32: 0 numbers: none", Edges::fresh, x -> x.sheet(0, 8, 0), 1, x -> x.put(0, 0, 1), BEYOND);
         Edges.answers("32: 8 bits", Edges::fresh, x -> x.sheet(0, 8, 1), 1, x -> x.judge(0), 0);
@@ -196,7 +201,8 @@ public final class TellingEdgeTest {
         Edges.answers("32: bits 0: missing", Edges::some, x -> x.sheet(0, 0, 3), 1, x -> x.judge(0), NONE);
         Edges.answers("32: bits 0, n -1 doesn't matter", Edges::some, x -> x.sheet(0, 0, -1), 1, x -> x.judge(0), NONE);
         Edges.answers("32: bits 0, n 41 doesn't matter", Edges::some, x -> x.sheet(0, 0, 41), 1, x -> x.judge(0), NONE);
-        Edges.answers("32: bits 0, n least doesn't matter", Edges::some, x -> x.sheet(0, 0, LEAST), 1, x -> x.told(3), 0);
+        Edges.answers("32: bits 0, n least doesn't matter", Edges::some,
+            x -> x.sheet(0, 0, LEAST), 1, x -> x.told(3), 0);
         Edges.onlyTells("32: bits 0 of one that is missing", Edges::some, x -> x.sheet(3, 0, 9), 1);
         Edges.answers("32: others stay", Edges::some, x -> x.sheet(0, 0, 0), 1, x -> x.judge(1), -1);
     }
@@ -337,8 +343,10 @@ public final class TellingEdgeTest {
         Edges.refused("34: BEYOND, j -1", Edges::some, x -> x.move(0, 0, 0, -1, 1), BEYOND);
         Edges.refused("34: BEYOND, i -1, though n is 0", Edges::some, x -> x.move(0, -1, 0, 1, 0), BEYOND);
         Edges.refused("34: BEYOND, j -1, though n is 0", Edges::some, x -> x.move(0, 0, 0, -1, 0), BEYOND);
-        Edges.refused("34: BEYOND, from i on 1 too few: none is moved", Edges::some, x -> x.move(0, 1, 0, 0, 3), BEYOND);
-        Edges.refused("34: BEYOND, from j on 1 too few: none is moved", Edges::some, x -> x.move(0, 0, 0, 1, 3), BEYOND);
+        Edges.refused("34: BEYOND, from i on 1 too few: none is moved", Edges::some,
+            x -> x.move(0, 1, 0, 0, 3), BEYOND);
+        Edges.refused("34: BEYOND, from j on 1 too few: none is moved", Edges::some,
+            x -> x.move(0, 0, 0, 1, 3), BEYOND);
         Edges.refused("34: BEYOND, n 4 of 3", Edges::some, x -> x.move(0, 0, 0, 0, 4), BEYOND);
         Edges.refused("34: BEYOND, i 4 of 3, though n is 0", Edges::some, x -> x.move(0, 4, 0, 0, 0), BEYOND);
         Edges.refused("34: BEYOND, i + n goes round", Edges::some, x -> x.move(0, MOST, 0, 0, 1), BEYOND);
@@ -360,15 +368,18 @@ public final class TellingEdgeTest {
         Edges.answers("35: PALATE 0", () -> tasters(2, 8, 0, 99), x -> x.palates(0), 2, x -> x.ofFolk(0, 1), 0);
         Edges.answers("35: up to 100", () -> tasters(3, 8, 5, 100, 6), x -> x.palates(0), 1, x -> x.ofFolk(0, 1), 5);
         Edges.answers("35: 100 is none", () -> tasters(3, 8, 5, 100, 6), x -> x.palates(0), 1, x -> x.ofFolk(1, 1), 10);
-        Edges.answers("35: nor those behind", () -> tasters(3, 8, 5, 100, 6), x -> x.palates(0), 1, x -> x.ofFolk(2, 1), 10);
+        Edges.answers("35: nor those behind", () -> tasters(3, 8, 5, 100, 6),
+            x -> x.palates(0), 1, x -> x.ofFolk(2, 1), 10);
         Edges.answers("35: up to -1", () -> tasters(3, 8, 5, -1, 6), x -> x.palates(0), 1, x -> x.ofFolk(1, 1), 10);
         Edges.answers("35: no ERROR", () -> tasters(3, 8, 5, 100, 6), x -> x.palates(0), 1, x -> x.told(1), 0);
-        Edges.answers("35: 256 of 32 bits is none", () -> tasters(1, 32, 256), x -> x.palates(0), 0, x -> x.ofFolk(0, 1), 10);
+        Edges.answers("35: 256 of 32 bits is none", () -> tasters(1, 32, 256),
+            x -> x.palates(0), 0, x -> x.ofFolk(0, 1), 10);
         Edges.onlyTells("35: the first is none", () -> tasters(3, 8, 100, 5, 6), x -> x.palates(0), 0);
         Edges.answers("35: there is nobody for the third", () -> tasters(2, 8, 1, 2, 3), x -> x.palates(0), 2,
             x -> x.ofFolk(1, 1), 2);
         Edges.answers("35: fewer than FOLK", () -> tasters(3, 8, 1, 2), x -> x.palates(0), 2, x -> x.ofFolk(2, 1), 10);
-        Edges.answers("35: all six", () -> tasters(6, 8, 1, 2, 3, 4, 5, 6), x -> x.palates(0), 6, x -> x.ofFolk(5, 1), 6);
+        Edges.answers("35: all six", () -> tasters(6, 8, 1, 2, 3, 4, 5, 6),
+            x -> x.palates(0), 6, x -> x.ofFolk(5, 1), 6);
         Edges.onlyTells("35: nobody at all", () -> tasters(0, 8, 1, 2), x -> x.palates(0), 0);
         Edges.onlyTells("35: no numbers", () -> tasters(3, 8), x -> x.palates(0), 0);
         Edges.refused("35: NONE, it is missing", Edges::some, x -> x.palates(3), NONE);
@@ -393,6 +404,11 @@ public final class TellingEdgeTest {
         Edges.onlyTells("36: two are too many: the first of them", () -> judged(7, 8, 9, 0, 0), x -> x.judge(0), 3);
         Edges.onlyTells("36: one that isn't, ahead of one too many", () -> judged(7, 9, 9, 0), x -> x.judge(0), 1);
         Edges.onlyTells("36: one that isn't, ahead of one that lacks", () -> judged(7, 9), x -> x.judge(0), 1);
+        Edges.onlyTells("36: one that the SHEET had is none too many", () -> {
+            WellTold x = judged(7, 8, 9, 5);
+            Edges.numbers(x, 0, 8, 7, 8, 9);
+            return x;
+        }, x -> x.judge(0), -1);
         Edges.onlyTells("36: no numbers, no SAYINGS", () -> tasters(0, 8), x -> x.judge(0), -1);
         Edges.onlyTells("36: one number, no SAYINGS", () -> tasters(0, 8, 0), x -> x.judge(0), 0);
         Edges.onlyTells("36: all of 8", Edges::full, x -> x.judge(0), -1);
@@ -423,7 +439,8 @@ public final class TellingEdgeTest {
         Edges.answers("38: fewer WAYS", Edges::some, x -> x.way(0, 1, 1), 3, x -> 10 * x.restore() + x.count(1), 3);
         Edges.answers("38: fewer SAYINGS", Edges::some, x -> x.restore(), 0, x -> x.count(2), 2);
         Edges.answers("38: what one KNOWS", Edges::some, x -> x.restore(), 0, x -> x.ofFolk(1, 2), 0);
-        Edges.answers("38: the WAY that is STOPPED", Edges::some, x -> x.stop(1, 0), 1, x -> x.restore() + x.count(6), 2);
+        Edges.answers("38: the WAY that is STOPPED", Edges::some,
+            x -> x.stop(1, 0), 1, x -> x.restore() + x.count(6), 2);
         Edges.answers("38: no TEXT of TASTES", Edges::some, x -> x.restore(), 0, x -> x.law(1, 0, 9, 0), 1);
         Edges.answers("38: the TEXT of WEAKENS", () -> {
             WellTold x = Edges.some();
@@ -440,6 +457,83 @@ public final class TellingEdgeTest {
             x.wells(8);
             return x;
         }, x -> x.restore(), 0, x -> x.count(0), 4);
+    }
+
+    /** All of some(), with a SAYING on its way, as an IMAGE. */
+    private static WellTold imagedAll() {
+        WellTold x = Edges.some();
+        x.hours(1);
+        x.image();
+        return x;
+    }
+
+    private static void p38RestoreAll() {
+        WellTold x = imagedAll();
+        x.stop(0, 1);
+        x.stop(1, 0);
+        x.way(4, 0, 1);
+        x.change(0, 0, 3);
+        x.change(0, 1, 9);
+        x.change(1, 0, 0);
+        x.become(1, 69);
+        x.call(33, 3, 33);
+        x.drink(0, 0, 0);
+        x.drink(0, 1, 99);
+        x.drink(0, 2, 14);
+        x.folk(3, 1);
+        x.rain(1);
+        x.seed(5);
+        x.tell(9);
+        x.feed('2', 1);
+        x.text(0);
+        Checks.text(x, 1, "0");
+        Checks.feed(x, "98765");
+        x.loose(5);
+        due("38: it was so", x.restore(), 4);
+        Edges.areAlike("38: all is as the IMAGE has it", x, imagedAll());
+    }
+
+    /** Of one SAYING, known to one of two, an IMAGE; then there are eight, known to both, and some are thought of. */
+    private static WellTold imagedOfOne() {
+        WellTold x = Edges.folk(2);
+        x.call(0, 0, 5);
+        x.drink(1, 2, 1);
+        x.image();
+        for (int i = 1; i < 8; i++) {
+            x.call(0, 0, 90);
+        }
+        x.drink(0, 2, 255);
+        x.furthest(9, 0);
+        x.restore();
+        return x;
+    }
+
+    /** Of no WAYS, an IMAGE that is restored when there was one, and STOPPED. */
+    private static WellTold imagedOfNoWays() {
+        WellTold x = new WellTold();
+        x.image();
+        x.way(0, 1, 9);
+        x.stop(0, 1);
+        x.restore();
+        return x;
+    }
+
+    private static void p38RestoreOfFewer() {
+        Edges.onlyTells("38: STRENGTHS of those that there are", TellingEdgeTest::imagedOfOne, x -> x.count(7), 5);
+        Edges.onlyTells("38: who KNOWS those that there are", TellingEdgeTest::imagedOfOne, x -> x.count(8), 1);
+        Edges.onlyTells("38: one KNOWS those that there are", TellingEdgeTest::imagedOfOne, x -> x.ofFolk(0, 2), 0);
+        Edges.onlyTells("38: and would KNOW those", TellingEdgeTest::imagedOfOne, x -> x.then(9, 0), 0);
+        Edges.onlyTells("38: the furthest of those", TellingEdgeTest::imagedOfOne, x -> x.furthest(0, 1), 1);
+        Edges.refused("38: SAYING 1 of 1", TellingEdgeTest::imagedOfOne, x -> x.ofSaying(1, 0), BEYOND);
+        Edges.answers("38: WAY 0 anew, where it leads", TellingEdgeTest::imagedOfNoWays, x -> x.way(3, 2, 5), 0,
+            x -> x.ofWay(0, 1), 2);
+        Edges.answers("38: WAY 0 anew, HOURS", TellingEdgeTest::imagedOfNoWays, x -> x.way(3, 2, 5), 0,
+            x -> x.ofWay(0, 2), 5);
+        Edges.answers("38: WAY 0 anew isn't STOPPED", TellingEdgeTest::imagedOfNoWays, x -> x.way(3, 2, 5), 0,
+            x -> x.ofWay(0, 3), 0);
+        Edges.refused("38: there are no WAYS", TellingEdgeTest::imagedOfNoWays, x -> x.ofWay(0, 0), BEYOND);
+        Edges.answers("38: SAYING 1 anew is known to nobody", TellingEdgeTest::imagedOfOne, x -> x.call(0, 0, 1), 1,
+            x -> x.ofSaying(1, 7), 0);
     }
 
     private static WellTold imaged(int hour) {
@@ -516,7 +610,8 @@ public final class TellingEdgeTest {
         Edges.answers("40: now isn't behind 1", () -> told(32), x -> x.check(), 1, x -> x.count(10), 0);
         Edges.answers("40: 0 at least of each", () -> told(30, 28, 27), x -> x.check(), 0, x -> x.count(10), 0);
         Edges.answers("40: the third isn't so", () -> told(30, 28, 26), x -> x.check(), 3, x -> x.count(10), 0);
-        Edges.answers("40: the first of two that aren't", () -> told(30, 29, 26), x -> x.check(), 2, x -> x.count(10), 0);
+        Edges.answers("40: the first of two that aren't", () -> told(30, 29, 26),
+            x -> x.check(), 2, x -> x.count(10), 0);
         Edges.answers("40: none waits then, none is wrong", () -> told(31), x -> x.check(), 1, x -> x.check(), 0);
         Edges.answers("40: it begins anew", () -> told(30), x -> x.check() + x.tell(30), 1, x -> x.check(), 0);
         Edges.answers("40: all 20, no SAYINGS", () -> waiting(20), x -> x.check(), 0, x -> x.count(10), 0);
@@ -572,13 +667,16 @@ public final class TellingEdgeTest {
     private static void p42ToldNoErrors() {
         for (int k = 1; k <= 5; k++) {
             int which = k;
-            Edges.answers("42: z isn't told, " + k, () -> drawing(-1000000000 - which), x -> x.count(12), -1000000000 - k,
+            Edges.answers("42: z isn't told, " + k, () -> drawing(-1000000000 - which),
+                x -> x.count(12), -1000000000 - k,
                 x -> x.told(which), 0);
             Edges.answers("42: a VOICE isn't told, " + k, () -> saying(0), x -> x.voice(0, 0, -1000000000 - which),
                 -1000000000 - k, x -> x.told(which), 0);
             Edges.answers("42: a FAULT isn't told, " + k, Edges::fresh, x -> x.text(0), -10, x -> x.told(which), 0);
-            Edges.answers("42: no WAY isn't told, " + k, () -> saying(0), x -> x.ofSaying(0, 6), -1, x -> x.told(which), 0);
-            Edges.answers("42: judge() isn't told, " + k, () -> judged(7, 8, 9), x -> x.judge(0), -1, x -> x.told(which), 0);
+            Edges.answers("42: no WAY isn't told, " + k, () -> saying(0),
+                x -> x.ofSaying(0, 6), -1, x -> x.told(which), 0);
+            Edges.answers("42: judge() isn't told, " + k, () -> judged(7, 8, 9),
+                x -> x.judge(0), -1, x -> x.told(which), 0);
         }
     }
 }

@@ -42,20 +42,22 @@ public final class ThoughtEdgeTest {
     // ---- HOUR beyond 9999
 
     private static void beyondTheLastHour() {
-        tells("3: HOUR beyond 9999, then", Edges::last, x -> x.then(99, 0), 1);
-        tells("3: HOUR beyond 9999, learns", Edges::last, x -> x.learns(0, 0), 1);
-        tells("3: HOUR beyond 9999, calls", Edges::last, x -> x.calls(0, 99, 1, 0), 1);
-        tells("3: HOUR beyond 9999, stops", Edges::last, x -> x.stops(0, 0, 0), 0);
-        tells("3: HOUR beyond 9999, who", ThoughtEdgeTest::lastWithSheet, x -> x.who(0, 99), 1);
-        tells("3: HOUR beyond 9999, loud", ThoughtEdgeTest::lastWithSheet, x -> x.loud(0, 0, 20, 1), 10);
-        tells("3: HOUR beyond 9999, alike", Edges::last, x -> x.alike(99), 0);
-        tells("3: HOUR beyond 9999, furthest", Edges::last, x -> x.furthest(99, 1), 1);
-        tells("3: HOUR beyond 9999, odds", Edges::last, x -> x.odds(0, 0, 99, 0), 1);
-        Edges.refused("3: HOUR beyond 9999, stops where nothing stops it", Edges::last, x -> x.stops(0, 0, 10), NONE);
-        Edges.answers("3: HOUR beyond 9999, check", Edges::last, x -> x.tell(40), 1, x -> x.check(), 0);
-        Edges.answers("3: TASTES is given HOUR 10000", () -> lastTasting("h=9999+1"), x -> x.learns(0, 0), 2);
-        Edges.answers("3: TASTES is given HOUR 10097", () -> lastTasting("h=9999+98"), x -> x.learns(0, 0), 99);
-        Edges.answers("3: behind 99, HOUR 10098 isn't told yet", () -> lastTasting("h=9999+99"), x -> x.learns(0, 0), NONE);
+        tells("Terms 3: HOUR beyond 9999, then", Edges::last, x -> x.then(99, 0), 1);
+        tells("Terms 3: HOUR beyond 9999, learns", Edges::last, x -> x.learns(0, 0), 1);
+        tells("Terms 3: HOUR beyond 9999, calls", Edges::last, x -> x.calls(0, 99, 1, 0), 1);
+        tells("Terms 3: HOUR beyond 9999, stops", Edges::last, x -> x.stops(0, 0, 0), 0);
+        tells("Terms 3: HOUR beyond 9999, who", ThoughtEdgeTest::lastWithSheet, x -> x.who(0, 99), 1);
+        tells("Terms 3: HOUR beyond 9999, loud", ThoughtEdgeTest::lastWithSheet, x -> x.loud(0, 0, 20, 1), 10);
+        tells("Terms 3: HOUR beyond 9999, alike", Edges::last, x -> x.alike(99), 0);
+        tells("Terms 3: HOUR beyond 9999, furthest", Edges::last, x -> x.furthest(99, 1), 1);
+        tells("Terms 3: HOUR beyond 9999, odds", Edges::last, x -> x.odds(0, 0, 99, 0), 1);
+        Edges.refused("Terms 3: HOUR beyond 9999, stops where nothing stops it", Edges::last,
+            x -> x.stops(0, 0, 10), NONE);
+        Edges.answers("Terms 3: HOUR beyond 9999, check", Edges::last, x -> x.tell(40), 1, x -> x.check(), 0);
+        Edges.answers("Terms 3: TASTES is given HOUR 10000", () -> lastTasting("h=9999+1"), x -> x.learns(0, 0), 2);
+        Edges.answers("Terms 3: TASTES is given HOUR 10097", () -> lastTasting("h=9999+98"), x -> x.learns(0, 0), 99);
+        Edges.answers("Terms 3: behind 99, HOUR 10098 isn't told yet", () -> lastTasting("h=9999+99"),
+            x -> x.learns(0, 0), NONE);
     }
 
     private static WellTold lastWithSheet() {
@@ -150,11 +152,17 @@ public final class ThoughtEdgeTest {
     private static void p22CallsThere() {
         // On its way to WELL 1 for 8 HOURS more: called now it would be there.
         tells("22: it is there, though on its way", ThoughtEdgeTest::onItsWay, x -> x.calls(0, 1, 1, 0), 2);
+        // From WELL 0 it goes on at once: who drinks there never tastes it.
+        tells("22: it is there, though it goes on", () -> {
+            WellTold x = onItsWay();
+            x.folk(0, 1);
+            return x;
+        }, x -> x.calls(0, 1, 4, 0), 0);
         tells("22: as it is now, it isn't", ThoughtEdgeTest::onItsWay, x -> x.then(1, 0), 0);
         tells("22: with the STRENGTH that it has, too weak", ThoughtEdgeTest::onItsWay, x -> x.calls(0, 1, 2, 0), 0);
     }
 
-    /** WELLS 0, 1; a WAY of 9 HOURS, a SAYING on it of STRENGTH 48; one 0 drinks at WELL 1, so does one 1 of PALATE 48. */
+    /** A WAY of 9 HOURS, a SAYING of STRENGTH 48 on it; at WELL 1, its end, one 0 (PALATE 47) and one 1 (48) drink. */
     private static WellTold onItsWay() {
         WellTold x = new WellTold();
         x.wells(2);
@@ -330,6 +338,11 @@ public final class ThoughtEdgeTest {
         tells("24: the least of 8 bits", () -> asked(8, -128, -128), x -> x.who(0, 1), 7);
         tells("24: the least of 16 bits", () -> asked(16, -32768, -32768), x -> x.who(0, 1), 7);
         tells("24: the least of 32 bits", () -> asked(32, LEAST, LEAST), x -> x.who(0, 1), 7);
+        tells("24: one that the SHEET had tells nothing", () -> {
+            WellTold x = asked(8, 1, 0, 1);
+            Edges.numbers(x, 0, 8, 1, 0);
+            return x;
+        }, x -> x.who(0, 1), 1);
         tells("24: 2 tells neither that one KNOWS it nor not", () -> asked(8, 2, -1), x -> x.who(0, 1), 0);
     }
 
@@ -452,6 +465,8 @@ public final class ThoughtEdgeTest {
         tells("27: of several the least", ThoughtEdgeTest::apartBySayings, x -> x.furthest(1, 0), 0);
         tells("27: of several, how many", ThoughtEdgeTest::apartBySayings, x -> x.furthest(1, 1), 1);
         tells("27: the last, if most KNOW it", ThoughtEdgeTest::lastIsFurthest, x -> x.furthest(1, 0), 7);
+        tells("27: the first, if fewer KNOW the last", ThoughtEdgeTest::firstIsFurthest, x -> x.furthest(1, 0), 0);
+        tells("27: the first, how many", ThoughtEdgeTest::firstIsFurthest, x -> x.furthest(1, 1), 2);
         tells("27: all six KNOW it", ThoughtEdgeTest::lastIsFurthest, x -> x.furthest(1, 1), 6);
         tells("27: behind 98", () -> Edges.tasting("h=98"), x -> x.furthest(98, 1), 0);
         tells("27: behind 99", () -> Edges.tasting("h=98"), x -> x.furthest(99, 1), 1);
@@ -462,6 +477,14 @@ public final class ThoughtEdgeTest {
         Edges.refused("27: BEYOND, what 2", Edges::some, x -> x.furthest(0, 2), BEYOND);
         Edges.refused("27: BEYOND, what -1", Edges::some, x -> x.furthest(0, -1), BEYOND);
         Edges.refused("27: BEYOND is asked ahead of NONE", Edges::fresh, x -> x.furthest(100, 0), BEYOND);
+    }
+
+    private static WellTold firstIsFurthest() {
+        WellTold x = Edges.folk(2);
+        x.folk(1, 10);
+        x.call(30, 0, 50);
+        x.call(30, 1, 50);
+        return x;
     }
 
     private static WellTold lastIsFurthest() {

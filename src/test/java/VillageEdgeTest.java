@@ -1,4 +1,6 @@
-/** Promises 1 to 19 of ../shared/DOC.md: for each sentence that names a boundary case a test that makes just that case. */
+/**
+ * Promises 1 to 19 of ../shared/DOC.md: for each sentence that names a boundary case a test that makes just that case.
+ */
 public final class VillageEdgeTest {
     private static final int BEYOND = Edges.BEYOND;
     private static final int NONE = Edges.NONE;
@@ -191,7 +193,8 @@ public final class VillageEdgeTest {
         Edges.refused("8: BEYOND, SAYING -1", Edges::some, x -> x.ofSaying(-1, 0), BEYOND);
         Edges.refused("8: BEYOND, none at all", Edges::fresh, x -> x.ofSaying(0, 0), BEYOND);
         Edges.answers("8: -1 for no WAY is no ERROR", Edges::some, x -> x.ofSaying(2, 6), -1, x -> x.told(1), 0);
-        Edges.answers("8: WAY 0 is told from none", VillageEdgeTest::aWay, x -> x.call(0, 0, 0), 0, x -> x.ofSaying(0, 6), 0);
+        Edges.answers("8: WAY 0 is told from none", VillageEdgeTest::aWay,
+            x -> x.call(0, 0, 0), 0, x -> x.ofSaying(0, 6), 0);
         Edges.answers("8: how much it WEAKENS, though STRENGTH is less", Edges::fresh, x -> {
             x.call(50, 0, 2);
             return x.ofSaying(0, 5);
@@ -221,8 +224,10 @@ public final class VillageEdgeTest {
 
     private static void p9Change() {
         Edges.answers("9: AT, what it was", VillageEdgeTest::onItsWay, x -> x.change(0, 0, 3), 1);
-        Edges.answers("9: it is there then", VillageEdgeTest::onItsWay, x -> x.change(0, 0, 3), 1, x -> x.ofSaying(0, 4), 0);
-        Edges.answers("9: there, AT the same WELL", VillageEdgeTest::onItsWay, x -> x.change(0, 0, 1), 1, x -> x.ofSaying(0, 4), 0);
+        Edges.answers("9: it is there then", VillageEdgeTest::onItsWay,
+            x -> x.change(0, 0, 3), 1, x -> x.ofSaying(0, 4), 0);
+        Edges.answers("9: there, AT the same WELL", VillageEdgeTest::onItsWay,
+            x -> x.change(0, 0, 1), 1, x -> x.ofSaying(0, 4), 0);
         Edges.answers("9: STRENGTH leaves it on its way", VillageEdgeTest::onItsWay,
             x -> x.change(0, 1, 9), 48, x -> x.ofSaying(0, 4), 8);
         Edges.answers("9: STRENGTH 0", Edges::some, x -> x.change(0, 1, 0), 60, x -> x.ofSaying(0, 3), 0);
@@ -248,7 +253,8 @@ public final class VillageEdgeTest {
         Edges.answers("10: km 69, m", Edges::some, x -> x.become(1, 69), 2, x -> x.ofSaying(1, 1), 9);
         Edges.answers("10: km 0, KIND", Edges::some, x -> x.become(1, 0), 2, x -> x.ofSaying(1, 0), 0);
         Edges.answers("10: km 0, m", Edges::some, x -> x.become(1, 0), 2, x -> x.ofSaying(1, 1), 0);
-        Edges.answers("10: on its way it stays so", VillageEdgeTest::onItsWay, x -> x.become(0, 30), 0, x -> x.ofSaying(0, 4), 8);
+        Edges.answers("10: on its way it stays so", VillageEdgeTest::onItsWay,
+            x -> x.become(0, 30), 0, x -> x.ofSaying(0, 4), 8);
         Edges.refused("10: BEYOND, km 70", Edges::some, x -> x.become(0, 70), BEYOND);
         Edges.refused("10: BEYOND, km -1", Edges::some, x -> x.become(0, -1), BEYOND);
         Edges.refused("10: BEYOND, SAYING 3 of 3", Edges::some, x -> x.become(3, 0), BEYOND);
@@ -346,7 +352,8 @@ public final class VillageEdgeTest {
             x.feed(0x322d73, 3);
             return x.text(0);
         }, 1, x -> x.law(0, 9, 0, 0), 7);
-        Edges.answers("15: those above don't come", Edges::fresh, x -> x.feed(0x7373737373737337L, 1), 1, x -> x.text(0), 1);
+        Edges.answers("15: those above don't come", Edges::fresh,
+            x -> x.feed(0x7373737373737337L, 1), 1, x -> x.text(0), 1);
         // "1+2+3+4", and a byte 255 that no TEXT has.
         Edges.answers("15: the eighth is the highest", Edges::fresh, x -> x.feed(0xff342b332b322b31L, 8), 8,
             x -> x.text(0), -17);
@@ -376,8 +383,17 @@ public final class VillageEdgeTest {
     private static void p16Text() {
         Edges.answers("16: a TEXT", () -> reading("s"), x -> x.text(0), 1);
         Edges.answers("16: THE TAPE is empty then", () -> reading("s"), x -> x.text(0), 1, x -> x.count(9), 0);
-        Edges.answers("16: in place of the one ahead", () -> reading("s"), x -> x.text(0), 1, x -> x.law(0, 9, 0, 0), 9);
-        Edges.answers("16: that of the other USE stays", () -> reading("s"), x -> x.text(0), 1, x -> x.law(1, 9, 0, 0), 0);
+        Edges.answers("16: in place of the one ahead", () -> reading("s"),
+            x -> x.text(0), 1, x -> x.law(0, 9, 0, 0), 9);
+        Edges.answers("16: that of the other USE stays", () -> reading("s"),
+            x -> x.text(0), 1, x -> x.law(1, 9, 0, 0), 0);
+        // Both as long as can be; 25 of 1 and 25 of 2.
+        Edges.answers("16: a long one in place of a long one",
+        () -> reading("1+1+1+1+1+1+1+1+1+1+1+1+1+1+1+1+1+1+1+1+1+1+1+1+1"),
+            x -> {
+                x.text(0);
+                return Checks.text(x, 0, "2+2+2+2+2+2+2+2+2+2+2+2+2+2+2+2+2+2+2+2+2+2+2+2+2");
+            }, 1, x -> x.law(0, 0, 0, 0), 50);
         Edges.answers("16: of USE 1", () -> reading("s"), x -> x.text(1), 1, x -> x.law(1, 9, 0, 0), 1);
         Edges.answers("16: that of USE 0 stays", () -> reading("s"), x -> x.text(1), 1, x -> x.law(0, 9, 0, 0), 7);
         Edges.refused("16: BEYOND, USE 2: THE TAPE stays", () -> reading("s"), x -> x.text(2), BEYOND);
@@ -387,14 +403,18 @@ public final class VillageEdgeTest {
         Edges.answers("16: FAULT 0: -10", () -> reading("|"), x -> x.text(0), -10);
         Edges.answers("16: THE TAPE is empty: -10", () -> reading(""), x -> x.text(0), -10);
         Edges.answers("16: FAULT 1: -11", () -> reading("s!"), x -> x.text(0), -11);
-        Edges.answers("16: THE TAPE is empty behind a FAULT", () -> reading("s!"), x -> x.text(0), -11, x -> x.count(9), 0);
+        Edges.answers("16: THE TAPE is empty behind a FAULT", () -> reading("s!"),
+            x -> x.text(0), -11, x -> x.count(9), 0);
         Edges.answers("16: the one ahead stays", () -> reading("s!"), x -> x.text(0), -11, x -> x.law(0, 9, 0, 0), 7);
-        Edges.answers("16: without one ahead there is none", Edges::fresh, x -> x.text(0), -10, x -> x.law(0, 9, 0, 9), 5);
+        Edges.answers("16: without one ahead there is none", Edges::fresh,
+            x -> x.text(0), -10, x -> x.law(0, 9, 0, 9), 5);
         for (int k = 1; k <= 5; k++) {
             int which = k;
-            Edges.answers("16: a FAULT is no ERROR, " + k, () -> reading("s!"), x -> x.text(0), -11, x -> x.told(which), 0);
+            Edges.answers("16: a FAULT is no ERROR, " + k, () -> reading("s!"),
+                x -> x.text(0), -11, x -> x.told(which), 0);
         }
-        Edges.answers("16: a TEXT behind a FAULT", () -> reading("s!"), x -> x.text(0), -11, x -> Checks.text(x, 0, "m"), 1);
+        Edges.answers("16: a TEXT behind a FAULT", () -> reading("s!"),
+            x -> x.text(0), -11, x -> Checks.text(x, 0, "m"), 1);
     }
 
     private static void p17Law() {
@@ -474,10 +494,13 @@ public final class VillageEdgeTest {
         // z 1: the draw is 4310654, so RAIN is 4 in that HOUR: 99 less 1 + 4 / 2.
         Edges.answers("19: RAIN is drawn ahead of the HOUR", () -> Edges.strengths(99),
             x -> x.loose(1), 0, x -> x.ofSaying(0, 3), 96);
-        Edges.answers("19: RAIN is as in the last HOUR", () -> Edges.strengths(99), x -> x.loose(1), 0, x -> x.count(5), 4);
-        Edges.answers("19: z is as in the last HOUR", () -> Edges.strengths(99), x -> x.loose(1), 0, x -> x.count(12), 1103527590);
+        Edges.answers("19: RAIN is as in the last HOUR", () -> Edges.strengths(99),
+            x -> x.loose(1), 0, x -> x.count(5), 4);
+        Edges.answers("19: z is as in the last HOUR", () -> Edges.strengths(99),
+            x -> x.loose(1), 0, x -> x.count(12), 1103527590);
         // z goes round: 1103527590 * 1103515245 + 12345, as an int.
-        Edges.answers("19: z goes round", Edges::fresh, x -> x.loose(2), 0, x -> x.count(12), 1103527590 * 1103515245 + 12345);
+        Edges.answers("19: z goes round", Edges::fresh,
+        x -> x.loose(2), 0, x -> x.count(12), 1103527590 * 1103515245 + 12345);
     }
 
     private static void p19LooseUpToTheLast() {
