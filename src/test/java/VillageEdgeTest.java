@@ -429,6 +429,11 @@ public final class VillageEdgeTest {
         Edges.onlyTells("17: held within 1", () -> Edges.tasting("s"), x -> x.law(1, MOST, 0, 0), 1);
         Edges.onlyTells("17: held within 0, TASTES", () -> Edges.tasting("s"), x -> x.law(1, LEAST, 0, 0), 0);
         Edges.onlyTells("17: WEAKENS without a TEXT", Edges::fresh, x -> x.law(0, 0, 0, 8), 5);
+        // As it is read here, "held within 0 to 99" goes for 1+r/2 too (NOTES.md).
+        Edges.onlyTells("17: held within 99 without a TEXT, just so", Edges::fresh, x -> x.law(0, 0, 0, 197), 99);
+        Edges.onlyTells("17: held within 99 without a TEXT, 100", Edges::fresh, x -> x.law(0, 0, 0, 198), 99);
+        Edges.onlyTells("17: held within 0 without a TEXT, just so", Edges::fresh, x -> x.law(0, 0, 0, -3), 0);
+        Edges.onlyTells("17: held within 0 without a TEXT, -1", Edges::fresh, x -> x.law(0, 0, 0, -4), 0);
         Edges.onlyTells("17: TASTES without a TEXT", Edges::fresh, x -> x.law(1, 0, 0, 0), 1);
         Edges.refused("17: BEYOND, USE 2", Edges::some, x -> x.law(2, 0, 0, 0), BEYOND);
         Edges.refused("17: BEYOND, USE -1", Edges::some, x -> x.law(-1, 0, 0, 0), BEYOND);
