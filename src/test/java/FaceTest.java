@@ -5,6 +5,7 @@ import java.lang.reflect.Method;
 import java.lang.reflect.Modifier;
 import java.nio.file.Files;
 import java.nio.file.Path;
+import java.util.ArrayList;
 import java.util.Arrays;
 import java.util.List;
 import java.util.Set;
@@ -12,7 +13,7 @@ import java.util.TreeSet;
 import java.util.regex.Matcher;
 import java.util.regex.Pattern;
 
-/** The public face of ../shared/DOC.md, and those rules of ../shared/LANGUAGE.md that a test can see. */
+/** The public face of ../shared/DOC.md, and that there is no other. */
 public final class FaceTest {
     private static final String FACE =
         "wells(int) way(int,int,int) ofWay(int,int) stop(int,int) rain(int) call(int,int,int) "
@@ -28,10 +29,11 @@ public final class FaceTest {
     }
 
     public static void main(String[] args) throws IOException {
-        theFaceIsTheDocuments();
+        String document = Files.readString(Path.of("../shared/DOC.md"));
+        String source = Files.readString(Path.of("src/main/java/WellTold.java"));
+        theFaceIsTheDocuments(document);
+        theCallsStandAsInTheDocument(document, source);
         nothingElseIsSeen();
-        classesInsideKeepToTheRules();
-        theSourceKeepsToTheRules();
         Checks.end("FaceTest");
     }
 
@@ -43,8 +45,14 @@ public final class FaceTest {
         return s.append(')').toString();
     }
 
-    private static void theFaceIsTheDocuments() {
+    private static void theFaceIsTheDocuments(String document) {
         Set<String> due = new TreeSet<>(Arrays.asList(FACE.split(" ")));
+        Set<String> told = new TreeSet<>();
+        Matcher call = Pattern.compile("^    public int (\\w+)\\((.*)\\);$", Pattern.MULTILINE).matcher(document);
+        while (call.find()) {
+            told.add(call.group(1) + "(" + call.group(2).replaceAll(" \\w+(, |$)", ",").replaceAll(",$", "") + ")");
+        }
+        Checks.dueTrue("the document's face is " + told + ", due is " + due, told.equals(due));
         Set<String> seen = new TreeSet<>();
         for (Method m : WellTold.class.getDeclaredMethods()) {
             if (Modifier.isPublic(m.getModifiers())) {
@@ -62,6 +70,38 @@ public final class FaceTest {
         Checks.due("the constructor's parameters", made[0].getParameterCount(), 0);
     }
 
+    /** In the document's order, by the names of their parameters, each group behind the row ahead of it. */
+    private static void theCallsStandAsInTheDocument(String document, String source) {
+        List<String> due = new ArrayList<>();
+        Matcher face = Pattern.compile("^    (public int \\w+\\(.*\\));$", Pattern.MULTILINE).matcher(document);
+        while (face.find()) {
+            due.add(face.group(1));
+        }
+        Matcher group = Pattern.compile("^Ahead of the calls `(\\w+)`.* the interface says: (---- .*)\\.$",
+            Pattern.MULTILINE).matcher(document);
+        int groups = 0;
+        while (group.find()) {
+            int at = 0;
+            while (at < due.size() && !due.get(at).startsWith("public int " + group.group(1) + "(")) {
+                at++;
+            }
+            due.add(at, group.group(2));
+            groups++;
+        }
+        Checks.due("groups of calls in the document", groups, 5);
+        List<String> seen = new ArrayList<>();
+        Matcher row = Pattern.compile("^    (?:// (---- .*)|(public int \\w+\\(.*\\)) \\{)$", Pattern.MULTILINE)
+            .matcher(source);
+        while (row.find()) {
+            seen.add(row.group(1) != null ? row.group(1) : row.group(2));
+        }
+        // The last row is that of what the calls share, which no call of the face stands behind.
+        Checks.due("rows of the source", seen.size(), due.size() + 1);
+        for (int i = 0; i < due.size() && i < seen.size(); i++) {
+            Checks.dueTrue("the source says " + seen.get(i) + ", due is " + due.get(i), seen.get(i).equals(due.get(i)));
+        }
+    }
+
     private static void nothingElseIsSeen() {
         Set<String> names = new TreeSet<>();
         for (Method m : WellTold.class.getDeclaredMethods()) {
@@ -76,59 +116,10 @@ public final class FaceTest {
         }
         for (Field f : WellTold.class.getDeclaredFields()) {
             Checks.dueTrue(f + " is private", Modifier.isPrivate(f.getModifiers()));
-            boolean isStatic = Modifier.isStatic(f.getModifiers());
-            Checks.dueTrue(f + " is final where static", !isStatic || Modifier.isFinal(f.getModifiers()));
         }
         for (Class<?> inside : WellTold.class.getDeclaredClasses()) {
             for (Method m : inside.getDeclaredMethods()) {
                 Checks.dueTrue(m + " bears no public name", !names.contains(m.getName()));
-            }
-        }
-    }
-
-    private static void classesInsideKeepToTheRules() {
-        Class<?>[] inside = WellTold.class.getDeclaredClasses();
-        Checks.dueTrue("some twelve classes at most", inside.length + 1 <= 12);
-        for (Class<?> c : inside) {
-            Checks.dueTrue(c + " is static", Modifier.isStatic(c.getModifiers()));
-            Checks.dueTrue(c + " is not public", !Modifier.isPublic(c.getModifiers()));
-            Checks.due(c + " has no classes inside", c.getDeclaredClasses().length, 0);
-            int fields = 0;
-            for (Field f : c.getDeclaredFields()) {
-                boolean isStatic = Modifier.isStatic(f.getModifiers());
-                fields += isStatic ? 0 : 1;
-                Checks.dueTrue(f + " is final where static", !isStatic || Modifier.isFinal(f.getModifiers()));
-            }
-            Checks.dueTrue(c + " has some twenty fields at most", fields <= 20);
-            for (Method m : c.getDeclaredMethods()) {
-                Checks.dueTrue(m + " takes seven parameters at most", m.getParameterCount() <= 7);
-            }
-        }
-    }
-
-    private static void theSourceKeepsToTheRules() throws IOException {
-        List<String> lines = Files.readAllLines(Path.of("src/main/java/WellTold.java"));
-        Pattern ruledOut = Pattern.compile("\\b(throw|throws|try|catch|finally|synchronized|assert|import|package"
-            + "|instanceof|native|volatile|System|Thread|Object|equals|hashCode|toString|Exact)\\b|->|::|Exact\\(");
-        int methodStart = -1;
-        for (int i = 0; i < lines.size(); i++) {
-            String line = lines.get(i);
-            String where = "line " + (i + 1) + " (" + line.trim() + ")";
-            for (int k = 0; k < line.length(); k++) {
-                Checks.dueTrue(where + " holds signs 32 to 126 alone", line.charAt(k) >= 32 && line.charAt(k) <= 126);
-            }
-            String code = line.trim();
-            if (!code.startsWith("*") && !code.startsWith("/*") && !code.startsWith("//")) {
-                Matcher m = ruledOut.matcher(code);
-                Checks.dueTrue(where + " keeps to LANGUAGE.md", !m.find());
-            }
-            if (code.endsWith("{") && code.contains("(") && line.matches("^( {4}| {8})\\S.*")
-                && !code.matches("(if|for|while|switch|\\}).*")) {
-                methodStart = i;
-            }
-            if (line.matches("^( {4}| {8})\\}") && methodStart >= 0) {
-                Checks.dueTrue(where + " ends a method of some sixty lines at most", i - methodStart < 60);
-                methodStart = -1;
             }
         }
     }
